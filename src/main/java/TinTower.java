@@ -312,16 +312,11 @@ public final class TinTower {
     }
 
     public int over(int first, int second, int third) {
-        if (!isTold(first) || !isTold(second) || first == second) {
+        boolean alike = first == second || first == third || second == third;
+        if (alike || !isTold(first) || !isTold(second) || third != NONE && !isTold(third)) {
             return NONE;
         }
-        if (third == NONE) {
-            return shapes.reachOfTwo(now.told, first, second);
-        }
-        if (!isTold(third) || third == first || third == second) {
-            return NONE;
-        }
-        return shapes.reachOfThree(now.told, first, second, third);
+        return shapes.reach(now.told, first, second, third);
     }
 
     public int child() {
@@ -470,18 +465,47 @@ public final class TinTower {
         static final int ABOVE = ('a' & 31) << 25 | ('b' & 31) << 20 | ('o' & 31) << 15 | ('v' & 31) << 10 | ('e' & 31) << 5;
         static final int LOAD = ('l' & 31) << 25 | ('o' & 31) << 20 | ('a' & 31) << 15 | ('d' & 31) << 10;
 
-        byte[] signs;
-        int length;
-        int at;
+        private final int[] kinds = new int[TAPE_LENGTH + 1];
+        private final int[] places = new int[TAPE_LENGTH + 1];
+        private final int[] values = new int[TAPE_LENGTH + 1];
+        private int tokens;
+        private int token;
+        private byte[] signs;
+        private int length;
+        private int at;
+        /** Of the TOKEN that is next. */
         int kind;
         int place;
         int value;
 
-        void start(byte[] newSigns, int newLength) {
+        void cut(byte[] newSigns, int newLength) {
             signs = newSigns;
-            length = newSigns == null ? 0 : Math.min(newLength, newSigns.length);
+            length = newSigns == null ? 0 : Math.min(newLength, Math.min(newSigns.length, TAPE_LENGTH));
             at = 0;
+            tokens = 0;
+            skipBlanks();
+            while (at < length && tokens < TAPE_LENGTH) {
+                places[tokens] = at;
+                readOne();
+                kinds[tokens] = kind;
+                values[tokens] = value;
+                tokens++;
+                skipBlanks();
+            }
+            kinds[tokens] = END;
+            places[tokens] = length;
+            values[tokens] = 0;
+            token = -1;
             next();
+        }
+
+        void next() {
+            token = Math.min(token + 1, tokens);
+            if (token >= 0 && token < kinds.length) {
+                kind = kinds[token];
+                place = places[token];
+                value = values[token];
+            }
         }
 
         /** The byte at a place; 0, which is no sign of the language, beyond the TEXT. */
@@ -489,16 +513,14 @@ public final class TinTower {
             return signs != null && i >= 0 && i < length && i < signs.length ? signs[i] & 255 : 0;
         }
 
-        void next() {
+        private void skipBlanks() {
             while (at < length && (sign(at) == 32 || sign(at) == 10)) {
                 at++;
             }
-            place = at;
+        }
+
+        private void readOne() {
             value = 0;
-            if (at >= length) {
-                kind = END;
-                return;
-            }
             int sign = sign(at);
             if (isLetter(sign)) {
                 readWord();
@@ -674,44 +696,36 @@ public final class TinTower {
             lines = 0;
             fault = 0;
             place = NONE;
-            scanner.start(signs, length);
+            scanner.cut(signs, length);
             boolean good = true;
-            for (int i = 0; i < TAPE_LENGTH && good && scanner.kind != Scanner.END; i++) {
-                good = readLine();
+            while (good && scanner.kind != Scanner.END && lines < TAPE_LENGTH) {
+                if (scanner.isWord(Scanner.SHELF)) {
+                    good = readShelf();
+                } else if (scanner.isWord(Scanner.THING)) {
+                    good = readThing();
+                } else if (scanner.isWord(Scanner.CHILD)) {
+                    good = readChild();
+                } else {
+                    good = refuse(CANT_STAND);
+                }
                 lines++;
             }
             return good;
         }
 
-        private boolean refuse(int newFault, int newPlace) {
+        /** A FAULT at the TOKEN that is next. */
+        private boolean refuse(int newFault) {
             fault = newFault;
-            place = newPlace;
+            place = scanner.place;
             return false;
-        }
-
-        private boolean refuseHere(int newFault) {
-            return refuse(newFault, scanner.place);
-        }
-
-        private boolean readLine() {
-            if (scanner.isWord(Scanner.SHELF)) {
-                return readShelf();
-            }
-            if (scanner.isWord(Scanner.THING)) {
-                return readThing();
-            }
-            if (scanner.isWord(Scanner.CHILD)) {
-                return readChild();
-            }
-            return refuseHere(CANT_STAND);
         }
 
         private boolean readNumber(int least, int most) {
             if (scanner.kind != Scanner.NUMBER) {
-                return refuseHere(CANT_STAND);
+                return refuse(CANT_STAND);
             }
             if (scanner.value < least || scanner.value > most) {
-                return refuseHere(TOO_MUCH);
+                return refuse(TOO_MUCH);
             }
             number = scanner.value;
             scanner.next();
@@ -720,7 +734,7 @@ public final class TinTower {
 
         private boolean readShelf() {
             if (told.shelfTold) {
-                return refuseHere(TOLD_ALREADY);
+                return refuse(TOLD_ALREADY);
             }
             told.shelfTold = true;
             scanner.next();
@@ -733,7 +747,7 @@ public final class TinTower {
 
         private boolean readEnd() {
             if (!scanner.isSign(';')) {
-                return refuseHere(CANT_STAND);
+                return refuse(CANT_STAND);
             }
             scanner.next();
             return true;
@@ -741,25 +755,25 @@ public final class TinTower {
 
         private boolean readChild() {
             if (told.wish.isTold()) {
-                return refuseHere(TOLD_ALREADY);
+                return refuse(TOLD_ALREADY);
             }
             scanner.next();
             int found = wishes.read(scanner, told.wish);
-            return found == 0 ? readEnd() : refuseHere(found);
+            return found == 0 ? readEnd() : refuse(found);
         }
 
         private boolean readThing() {
             int t = told.number;
             if (t >= MOST_THINGS) {
-                return refuseHere(TOO_MUCH);
+                return refuse(TOO_MUCH);
             }
             scanner.next();
             int namePlace = scanner.place;
             if (scanner.kind != Scanner.WORD || scanner.isOfTheLanguage()) {
-                return refuseHere(CANT_STAND);
+                return refuse(CANT_STAND);
             }
             if (told.find(scanner.value) >= 0) {
-                return refuseHere(TOLD_ALREADY);
+                return refuse(TOLD_ALREADY);
             }
             told.name[t] = scanner.value;
             scanner.next();
@@ -767,7 +781,9 @@ public final class TinTower {
                 return false;
             }
             if (scanner.isSign(';') && takesUpAnothers(t)) {
-                return refuse(TAKEN_UP, namePlace);
+                refuse(TAKEN_UP);
+                place = namePlace;
+                return false;
             }
             told.number = t + 1;
             return readEnd();
@@ -802,7 +818,7 @@ public final class TinTower {
                     return true;
                 }
                 if ((seen & bit) != 0) {
-                    return refuseHere(TOLD_ALREADY);
+                    return refuse(TOLD_ALREADY);
                 }
                 seen |= bit;
                 scanner.next();
@@ -1276,11 +1292,16 @@ public final class TinTower {
         boolean hasAny(int thing, int set) {
             int start = thing * ROW;
             for (int i = start; i < start + size[thing]; i++) {
-                if (on[i] == SHELF || (set >> on[i] & 1) != 0) {
+                if (isOnOneOf(i, set)) {
                     return true;
                 }
             }
             return false;
+        }
+
+        /** Whether an EDGE, by its place in the rows, is on the SHELF or on one of a set. */
+        boolean isOnOneOf(int i, int set) {
+            return on[i] == SHELF || (set >> on[i] & 1) != 0;
         }
     }
 
@@ -1393,8 +1414,7 @@ public final class TinTower {
             int ahead = NONE;
             int last = NONE;
             for (int i = start; i < start + edges.size[t]; i++) {
-                int on = edges.on[i];
-                if (on != Edges.SHELF && (set >> on & 1) == 0) {
+                if (!edges.isOnOneOf(i, set)) {
                     continue;
                 }
                 if (moment[t] < load[t] * edges.from[i]) {
@@ -1403,7 +1423,7 @@ public final class TinTower {
                         return 0;
                     }
                 } else if (moment[t] <= load[t] * edges.to[i]) {
-                    put(on, load[t], moment[t]);
+                    put(edges.on[i], load[t], moment[t]);
                     return 0;
                 } else {
                     ahead = i;
@@ -1473,8 +1493,8 @@ public final class TinTower {
 
         /** The greatest push at the top of a THING; what is there STANDS and is weighed. */
         int greatestPush(int thing, int side, int kind) {
-            int first = thing * Edges.ROW;
-            if (told.isRound(thing) || edges.size[thing] == 0) {
+            int twiceHigh = 2 * told.high[thing];
+            if (told.isRound(thing) || twiceHigh <= 0) {
                 return 0;
             }
             int rough = told.rough[thing];
@@ -1483,21 +1503,30 @@ public final class TinTower {
             } else if (kind == 2) {
                 rough += told.doubt[thing];
             }
-            int least = Integer.MAX_VALUE;
-            int greatest = Integer.MIN_VALUE;
-            for (int i = first; i < first + edges.size[thing]; i++) {
-                if (edges.on[i] == Edges.SHELF || scene.has(edges.on[i])) {
-                    least = Math.min(least, edges.from[i]);
-                    greatest = Math.max(greatest, edges.to[i]);
+            long lean = side == 0 ? load[thing] * rightEnd(thing) - moment[thing]
+                    : moment[thing] - load[thing] * leftEnd(thing);
+            return (int) (Math.min(rough * load[thing] / 10, lean / twiceHigh) / UNIT);
+        }
+
+        /** Where the EDGES of a THING begin, of those on what is there; NONE without. */
+        private int leftEnd(int thing) {
+            int end = NONE;
+            for (int i = thing * Edges.ROW; i < thing * Edges.ROW + edges.size[thing]; i++) {
+                if (edges.isOnOneOf(i, scene.there)) {
+                    end = end < 0 ? edges.from[i] : Math.min(end, edges.from[i]);
                 }
             }
-            long lean = side == 0 ? load[thing] * greatest - moment[thing]
-                    : moment[thing] - load[thing] * least;
-            int twiceHigh = 2 * told.high[thing];
-            if (twiceHigh <= 0) {
-                return 0;
+            return end;
+        }
+
+        private int rightEnd(int thing) {
+            int end = NONE;
+            for (int i = thing * Edges.ROW; i < thing * Edges.ROW + edges.size[thing]; i++) {
+                if (edges.isOnOneOf(i, scene.there)) {
+                    end = Math.max(end, edges.to[i]);
+                }
             }
-            return (int) (Math.min(rough * load[thing] / 10, lean / twiceHigh) / UNIT);
+            return end;
         }
 
         /** A THING is gone, and what then has no EDGE comes down or is lost; nothing FALLS yet. */
@@ -1767,25 +1796,13 @@ public final class TinTower {
             }
         }
 
-        int reachOfTwo(Told newTold, int first, int second) {
+        /** Farther left than its own WIDE the lowest one gains nothing. */
+        int reach(Told newTold, int first, int second, int third) {
             told = newTold;
-            storeys = 2;
-            storey[0] = first;
-            storey[1] = second;
-            return reach();
-        }
-
-        int reachOfThree(Told newTold, int first, int second, int third) {
-            told = newTold;
-            storeys = 3;
+            storeys = third == NONE ? 2 : 3;
             storey[0] = first;
             storey[1] = second;
             storey[2] = third;
-            return reach();
-        }
-
-        /** Farther left than its own WIDE the lowest one gains nothing. */
-        private int reach() {
             int best = NONE;
             for (int x = -told.wide[storey[0]]; x <= 0; x++) {
                 left[0] = x;
