@@ -194,11 +194,13 @@ public final class TinTower {
         if (hands < 1 || hands > 2 || what < 0 || what > Integer.bitCount(now.scene.there)) {
             return NONE;
         }
-        boolean possible = orders.search(now, hands);
-        if (what == 0) {
-            return possible ? 1 : 0;
+        if (!orders.hasAnswered(hands)) {
+            orders.search(now, hands);
         }
-        return possible ? orders.taken(hands, what - 1) : NONE;
+        if (what == 0) {
+            return orders.isPossible(hands) ? 1 : 0;
+        }
+        return orders.isPossible(hands) ? orders.taken(hands, what - 1) : NONE;
     }
 
     public int judge(int n, long order) {
@@ -247,7 +249,7 @@ public final class TinTower {
         }
         int rest = now.scene.there & ~(1 << thing);
         int best = NONE;
-        for (int help = 0; help < SETS; help++) {
+        for (int help = 0; help <= rest; help++) {
             boolean fewer = best < 0 || Integer.bitCount(help) < Integer.bitCount(best);
             if (fewer && (help & ~rest) == 0
                     && now.weigh(rest, wedges ? 0 : help, wedges ? help : 0) == 0) {
@@ -1390,10 +1392,11 @@ public final class TinTower {
         /** BEARING of a set: those of it that FALL. */
         int weigh(int set, int held, int wedged) {
             for (int t = 0; t < told.number; t++) {
-                int weight = told.weight[t] + (t == heavier ? more : 0);
-                load[t] = weight * UNIT;
-                moment[t] = load[t] * heartPlace(t);
-                fate[t] = 0;
+                if ((set >> t & 1) != 0) {
+                    load[t] = (told.weight[t] + (t == heavier ? more : 0)) * UNIT;
+                    moment[t] = load[t] * heartPlace(t);
+                    fate[t] = 0;
+                }
             }
             int fallen = 0;
             for (int i = 0; i < told.number; i++) {
@@ -1603,146 +1606,131 @@ public final class TinTower {
 
     /** Orders by which all that is there can be had down; kept until what is there changes. */
     private static final class Orders {
+        /** Stands for nobody where bits tell who is HELD. */
         static final int NOBODY = 1 << MOST_THINGS;
+        /** Far more than any search needs: each way that leads nowhere is tried once. */
+        static final int MOST_STEPS = 1000000;
 
         private Pile pile;
-        /** For each set: those of it that, HELD, let it stand; NOBODY, if it STANDS by itself. */
+        private int hands;
+        // For each set: who, HELD, is known to let it stand or not, and who does.
+        private final int[] asked = new int[SETS];
         private final int[] calm = new int[SETS];
-        /** For each set: those of it that, HELD, let it be had down from there; NOBODY likewise. */
-        private final int[] ways = new int[SETS];
+        /** For each set: who, HELD, is known to lead nowhere from there. */
+        private final int[] vain = new int[SETS];
+        // Step by step: what is there, who may be HELD, what is taken.
+        private final int[] sets = new int[MOST_THINGS + 1];
+        private final int[] held = new int[MOST_THINGS + 1];
+        private final int[] taken = new int[MOST_THINGS];
         private final int[] order = new int[2 * MOST_THINGS];
-        private int known;
+        private int answered;
         private int possible;
 
         void forget() {
-            known = 0;
+            answered = 0;
         }
 
-        int taken(int hands, int i) {
-            int at = (hands - 1) * MOST_THINGS + i;
+        boolean hasAnswered(int withHands) {
+            return (answered & withHands) != 0;
+        }
+
+        boolean isPossible(int withHands) {
+            return (possible & withHands) != 0;
+        }
+
+        int taken(int withHands, int i) {
+            int at = (withHands - 1) * MOST_THINGS + i;
             return i >= 0 && i < MOST_THINGS && at >= 0 && at < order.length ? order[at] : NONE;
         }
 
-        boolean search(Pile newPile, int hands) {
-            pile = newPile;
-            if ((known & hands) == 0) {
-                known |= hands;
-                possible &= ~hands;
-                findWays(hands);
-                if (ways[pile.scene.there] != 0) {
-                    possible |= hands;
-                    findFirst(hands);
+        /**
+         * Looks for the first order. All that may be HELD at a step is carried along, for an order is told by what is
+         * taken alone.
+         */
+        void search(Pile newPile, int newHands) {
+            begin(newPile, newHands);
+            int step = 0;
+            int next = 0;
+            for (int i = 0; i < MOST_STEPS && step >= 0 && step < MOST_THINGS && sets[step] != 0; i++) {
+                int set = sets[step];
+                int then = heldBehind(set, held[step], 1 << next);
+                if (then != 0) {
+                    taken[step] = next;
+                    step++;
+                    sets[step] = set & ~(1 << next);
+                    held[step] = then;
+                    next = 0;
+                } else if (next < MOST_THINGS - 1) {
+                    next++;
+                } else {
+                    vain[set] |= held[step];
+                    step--;
+                    next = step < 0 ? 0 : taken[step];
                 }
             }
-            return (possible & hands) != 0;
+            if (step >= 0 && sets[step] == 0) {
+                possible |= hands;
+                System.arraycopy(taken, 0, order, (hands - 1) * MOST_THINGS, step);
+            }
         }
 
-        /** Who may be HELD of a set. */
-        private static int holds(int set, int hands) {
+        private void begin(Pile newPile, int newHands) {
+            pile = newPile;
+            hands = newHands;
+            for (int set = 0; set < SETS; set++) {
+                asked[set] = answered == 0 ? 0 : asked[set];
+                vain[set] = 0;
+            }
+            answered |= hands;
+            possible &= ~hands;
+            sets[0] = pile.scene.there;
+            held[0] = anyOf(pile.scene.there);
+        }
+
+        /** Who may be HELD, where one may choose. */
+        private int anyOf(int set) {
             return hands == 2 ? set | NOBODY : NOBODY;
         }
 
-        private void findWays(int hands) {
-            int all = pile.scene.there;
-            for (int set = 0; set <= all && set < SETS; set++) {
-                if ((set & ~all) == 0) {
-                    calm[set] = holdsThatCalm(set, hands);
-                    ways[set] = set == 0 ? NOBODY : holdsThatLead(set, hands);
-                }
-            }
-        }
-
-        private int holdsThatCalm(int set, int hands) {
-            int found = 0;
-            for (int h = 0; h <= MOST_THINGS; h++) {
-                int one = 1 << h;
-                if ((holds(set, hands) & one) != 0 && pile.weigh(set, one & ~NOBODY, 0) == 0) {
-                    found |= one;
-                }
-            }
-            return found;
-        }
-
-        private int holdsThatLead(int set, int hands) {
-            int found = 0;
-            for (int h = 0; h <= MOST_THINGS; h++) {
-                int one = 1 << h;
-                if ((holds(set, hands) & one) != 0 && leads(set, one)) {
-                    found |= one;
-                }
-            }
-            return found;
-        }
-
-        private boolean leads(int set, int hold) {
-            for (int t = 0; t < MOST_THINGS; t++) {
-                if ((set >> t & 1) != 0 && heldBehind(set, hold, 1 << t) != 0) {
-                    return true;
-                }
-            }
-            return false;
-        }
-
-        /** Who is HELD when one has been taken and all can still be had down; 0, if that can't be. */
-        private int heldBehind(int set, int hold, int one) {
+        /** Who may be HELD when one has been taken, of those that may still lead on; 0, if it may not be taken. */
+        private int heldBehind(int set, int before, int one) {
             int rest = set & ~one;
-            int then = hold == one ? NOBODY : hold;
-            if (rest < 0 || rest >= SETS || (calm[rest] & then) == 0) {
+            if (rest == set || rest < 0 || rest >= SETS) {
                 return 0;
             }
-            boolean canChange = (calm[rest] & NOBODY) != 0;
-            boolean leads = canChange ? ways[rest] != 0 : (ways[rest] & then) != 0;
-            return leads ? then : 0;
-        }
-
-        /** The first order: all ways of holding that go with it are carried along. */
-        private void findFirst(int hands) {
-            int set = pile.scene.there;
-            int held = holds(set, hands);
-            for (int i = 0; i < MOST_THINGS && set != 0; i++) {
-                int then = 0;
-                int t = 0;
-                while (t < MOST_THINGS && then == 0) {
-                    then = heldBehindAny(set, held, 1 << t);
-                    t += then == 0 ? 1 : 0;
-                }
-                if (then == 0) {
-                    return;
-                }
-                int at = (hands - 1) * MOST_THINGS + i;
-                if (at >= 0 && at < order.length) {
-                    order[at] = t;
-                }
-                set &= ~(1 << t);
-                held = set < 0 || set >= SETS || (calm[set] & NOBODY) == 0 ? then : holds(set, hands);
-            }
-        }
-
-        private int heldBehindAny(int set, int held, int one) {
+            int after = (before & one) == 0 ? before : before & ~one | NOBODY;
             int found = 0;
-            if ((set & one) != 0) {
-                for (int h = 0; h <= MOST_THINGS; h++) {
-                    int hold = 1 << h;
-                    if ((held & hold) != 0) {
-                        found |= heldBehind(set, hold, one);
-                    }
+            for (int h = 0; h <= MOST_THINGS; h++) {
+                if ((after >> h & 1) != 0 && isCalm(rest, 1 << h)) {
+                    found |= 1 << h;
                 }
             }
-            return found;
+            if (found != 0 && isCalm(rest, NOBODY)) {
+                found = anyOf(rest);
+            }
+            return found & ~vain[rest];
+        }
+
+        private boolean isCalm(int set, int hold) {
+            if ((asked[set] & hold) == 0) {
+                asked[set] |= hold;
+                boolean stands = pile.weigh(set, hold & ~NOBODY, 0) == 0;
+                calm[set] = stands ? calm[set] | hold : calm[set] & ~hold;
+            }
+            return (calm[set] & hold) != 0;
         }
     }
 
     /** Piles that could be built: the highest, and those that reach farthest over the edge. */
     private static final class Shapes {
         static final int WIDEST = 12;
-        static final long FAR_LEFT = -1000;
 
-        /** The height of the pile of just these THINGS, the narrowest as wide as told last, or NONE. */
+        /** For each set: how high a pile of just these is, with none of the WIDE that is looked at now; or NONE. */
         private final int[] height = new int[SETS];
         int bestHigh;
         int bestSet;
         private Told told;
-        // A pile of one upon the other, the lowest first: which THING, and its LEFT.
+        // A pile of one upon the other, the lowest first: which THING, and its LEFT from the lowest one's.
         private final int[] storey = new int[3];
         private final int[] left = new int[3];
         private int storeys;
@@ -1751,31 +1739,33 @@ public final class TinTower {
             told = newTold;
             bestHigh = 0;
             bestSet = 0;
-            for (int pile = 0; pile < SETS; pile++) {
+            for (int pile = 0; pile <= set && pile < SETS; pile++) {
                 height[pile] = pile == 0 ? 0 : NONE;
             }
             for (int wide = WIDEST; wide >= 1; wide--) {
+                int usable = thoseAsWide(wide) & set;
                 // A pile with one more is a greater number, so none gets two of the same width.
-                for (int pile = SETS - 1; pile >= 0; pile--) {
-                    if (height[pile] >= 0) {
-                        addOne(pile, set & ~pile, wide);
+                for (int pile = set; pile >= 0 && usable != 0; pile--) {
+                    if (pile < SETS && height[pile] >= 0) {
+                        addOne(pile, usable & ~pile, wide);
                     }
                 }
             }
         }
 
-        private void addOne(int pile, int free, int wide) {
+        private int thoseAsWide(int wide) {
+            int found = 0;
             for (int t = 0; t < told.number; t++) {
-                if ((free >> t & 1) == 0) {
-                    continue;
-                }
-                int high = 0;
-                if (told.wide[t] == wide) {
-                    high = told.high[t];
-                } else if (told.high[t] == wide) {
-                    high = told.wide[t];
-                }
-                if (high > 0) {
+                found |= told.wide[t] == wide || told.high[t] == wide ? 1 << t : 0;
+            }
+            return found;
+        }
+
+        /** Puts each of some, as they are or on their side, upon a pile. */
+        private void addOne(int pile, int some, int wide) {
+            for (int t = 0; t < told.number; t++) {
+                if ((some >> t & 1) != 0) {
+                    int high = told.wide[t] == wide ? told.high[t] : told.wide[t];
                     offer(pile | 1 << t, height[pile] + high, told.isRound(t));
                 }
             }
@@ -1796,69 +1786,65 @@ public final class TinTower {
             }
         }
 
-        /** Farther left than its own WIDE the lowest one gains nothing. */
+        /** How far two or three (third not NONE) reach over the edge of a shelf that ends at 0. */
         int reach(Told newTold, int first, int second, int third) {
             told = newTold;
             storeys = third == NONE ? 2 : 3;
             storey[0] = first;
             storey[1] = second;
             storey[2] = third;
+            left[0] = 0;
             int best = NONE;
-            for (int x = -told.wide[storey[0]]; x <= 0; x++) {
-                left[0] = x;
-                best = Math.max(best, reachWithSecond(x));
-            }
-            return best;
-        }
-
-        private int reachWithSecond(int x) {
-            int best = NONE;
-            for (int y = x - told.wide[storey[1]]; y <= x + told.wide[storey[0]]; y++) {
+            for (int y = -told.wide[second]; y <= told.wide[first]; y++) {
                 left[1] = y;
-                if (storeys == 2) {
-                    best = Math.max(best, reachIfItStands());
-                } else {
-                    best = Math.max(best, reachWithThird(y));
-                }
+                best = Math.max(best, storeys == 2 ? reachIfItStands() : reachWithThird());
             }
             return best;
         }
 
-        private int reachWithThird(int y) {
+        private int reachWithThird() {
             int best = NONE;
-            for (int z = y - told.wide[storey[2]]; z <= y + told.wide[storey[1]]; z++) {
+            for (int z = left[1] - told.wide[storey[2]]; z <= left[1] + told.wide[storey[1]]; z++) {
                 left[2] = z;
                 best = Math.max(best, reachIfItStands());
             }
             return best;
         }
 
-        /** All that is above goes down as it is, for each has one EDGE alone. */
+        /** All that is above goes down as it is, for each has one EDGE alone; then the whole goes right. */
         private int reachIfItStands() {
             long load = 0;
             long moment = 0;
-            int reach = NONE;
+            int reach = 0;
             for (int i = storeys - 1; i >= 0; i--) {
                 int t = storey[i];
                 load += told.weight[t];
                 moment += (long) told.weight[t] * (2 * left[i] + told.heart[t]);
-                long from = Math.max(told.spanFrom(t, left[i]), belowFrom(i));
-                long to = Math.min(told.spanTo(t, left[i]), belowTo(i));
-                boolean pointIsEnough = told.isRound(t) || i > 0 && told.isRound(storey[i - 1]);
+                reach = Math.max(reach, left[i] + told.wide[t]);
+                long from = told.spanFrom(t, left[i]);
+                long to = told.spanTo(t, left[i]);
+                boolean pointIsEnough = told.isRound(t);
+                if (i > 0) {
+                    int below = storey[i - 1];
+                    from = Math.max(from, told.spanFrom(below, left[i - 1]));
+                    to = Math.min(to, told.spanTo(below, left[i - 1]));
+                    pointIsEnough |= told.isRound(below);
+                }
                 if (from > to || from == to && !pointIsEnough || moment < load * from || moment > load * to) {
                     return NONE;
                 }
-                reach = Math.max(reach, left[i] + told.wide[t]);
             }
-            return reach;
+            return reach + shiftOntoShelf(load, moment);
         }
 
-        private long belowFrom(int i) {
-            return i > 0 ? told.spanFrom(storey[i - 1], left[i - 1]) : FAR_LEFT;
-        }
-
-        private long belowTo(int i) {
-            return i > 0 ? told.spanTo(storey[i - 1], left[i - 1]) : 0;
+        /** How far a pile can go right: its weight must be above the shelf, and some of the lowest one. */
+        private int shiftOntoShelf(long load, long moment) {
+            if (load <= 0) {
+                return 0;
+            }
+            int t = storey[0];
+            int onShelf = told.isRound(t) ? Math.floorDiv(-told.wide[t], 2) : -1;
+            return (int) Math.min(Math.floorDiv(-moment, 2 * load), onShelf);
         }
     }
 }
