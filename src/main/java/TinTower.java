@@ -1828,7 +1828,7 @@ public final class TinTower {
                     int below = storey[i - 1];
                     from = Math.max(from, told.spanFrom(below, left[i - 1]));
                     to = Math.min(to, told.spanTo(below, left[i - 1]));
-                    pointIsEnough |= told.isRound(below);
+                    pointIsEnough = pointIsEnough || told.isRound(below);
                 }
                 if (from > to || from == to && !pointIsEnough || moment < load * from || moment > load * to) {
                     return NONE;
