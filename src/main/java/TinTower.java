@@ -502,7 +502,9 @@ public final class TinTower {
         }
 
         void next() {
-            token = Math.min(token + 1, tokens);
+            if (token < tokens) {
+                token++;
+            }
             if (token >= 0 && token < kinds.length) {
                 kind = kinds[token];
                 place = places[token];
