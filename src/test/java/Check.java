@@ -3,8 +3,14 @@ final class Check {
     private static int wrong = 0;
     private static int right = 0;
     private static final int MOST_PRINTED = 40;
+    private static String about = "";
 
     private Check() {
+    }
+
+    /** What the comparisons from here on are for. */
+    static void about(String what) {
+        about = what.isEmpty() ? "" : what + ": ";
     }
 
     static void due(String call, long got, long want) {
@@ -14,7 +20,7 @@ final class Check {
         }
         wrong++;
         if (wrong <= MOST_PRINTED) {
-            System.out.println(call + " answered " + got + ", due is " + want);
+            System.out.println(about + call + " answered " + got + ", due is " + want);
         }
     }
 
