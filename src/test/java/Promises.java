@@ -193,6 +193,24 @@ final class Promises {
             Check.due("wish(0)", x.wish(0), 7);
             Check.due("count(2)", x.count(2), 5);
         }
+        textsWithoutEnd(x);
+    }
+
+    /** However many knots and open brackets have been ahead, a text has all of its own. */
+    private static void textsWithoutEnd(TinTower x) {
+        String sum = "1";
+        for (int i = 0; i < 31; i++) {
+            sum += "+1";
+        }
+        for (int i = 0; i < 20; i++) {
+            Check.due("brackets without end", Check.read(x, "child 1+((((((((1+not"), -1);
+        }
+        for (int i = 0; i < 3; i++) {
+            Check.due("64 knots", Check.read(x, "thing a 0 0 1 1 1;child not (" + sum + ");"), 2);
+            Check.due("wish(0)", x.wish(0), 0);
+            Check.due("64 knots, deep", Check.read(x, "thing a 0 0 1 1 1;child not 0*(1-(2-(3-(4-(5-(6-(7-(8))))))))+" + sum.substring(38) + ";"), 2);
+            Check.due("wish(0)", x.wish(0), 0);
+        }
     }
 
     private static void textWithAFault() {

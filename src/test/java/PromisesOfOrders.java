@@ -61,6 +61,18 @@ final class PromisesOfOrders {
         Check.due("down(1, 1): one it stood on", z.down(1, 1), 0);
         z.undo();
         Check.due("down(1, 1): the upper one again", z.down(1, 1), 2);
+        // What led nowhere leads on when one has been moved, and in another text.
+        TinTower w = Check.of("thing a 0 0 1 1 1;thing b 0 3 1 1 1;thing c 3 3 1 1 1;thing d 5 3 1 1 1;");
+        for (int hands = 1; hands <= 2; hands++) {
+            Check.due("down(" + hands + ", 0)", w.down(hands, 0), 0);
+        }
+        Check.due("text", Check.read(w, "thing a 0 0 1 1 1;thing b 2 0 1 1 1;thing c 0 1 1 1 1;thing d 2 1 1 1 1;"), 4);
+        int[][] orders = {{1, 2, 0, 3, 1}, {1, 0, 2, 1, 3}};
+        for (int hands = 1; hands <= 2; hands++) {
+            for (int what = 0; what <= 4; what++) {
+                Check.due("down(" + hands + ", " + what + ")", w.down(hands, what), orders[hands - 1][what]);
+            }
+        }
         Doc.says("P14", "NONE: no such ones,");
         x.undo();
         for (int hands : new int[] {0, 3, -1, MIN, MAX}) {

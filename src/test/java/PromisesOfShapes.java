@@ -93,6 +93,7 @@ final class PromisesOfShapes {
         }
         x.take(1);
         Check.due("those that are told, there or not", x.highest(7, 1), 7);
+        Check.due("none of them behind that", x.highest(0, 1), 0);
         Doc.says("P22", "NONE: no such ones.");
         for (int set : new int[] {8, 15, 512, -1, MIN, MAX}) {
             Check.due("highest(" + set + ", 0)", x.highest(set, 0), -1);

@@ -45,13 +45,27 @@ public final class RandomTest {
             if (t[0] >= 0 && t[0] <= 39 && t[1] <= 39 && (oneIn(80) || !collides(put, n, t))) {
                 put[n] = t;
                 n++;
-                tell(b, n - 1, t);
             }
+        }
+        shuffle(put, n);
+        for (int i = 0; i < n; i++) {
+            tell(b, i, put[i]);
         }
         if (!oneIn(4)) {
             b.append("child ").append(wish(0)).append(";");
         }
         return b.toString();
+    }
+
+    /** What is told first need not be what stands below. */
+    private static void shuffle(int[][] put, int n) {
+        boolean fromBelow = oneIn(4);
+        for (int i = n - 1; i > 0 && !fromBelow; i--) {
+            int other = below(i + 1);
+            int[] t = put[i];
+            put[i] = put[other];
+            put[other] = t;
+        }
     }
 
     private static int[] place(int[][] put, int n, int shelf, int tall) {

@@ -134,6 +134,13 @@ final class TermsFour {
         Check.due("child() behind most()", w.child(), 0);
         w.stands(7, 2, 0);
         Check.due("wish() behind stands() with b held", w.wish(0), 6);
+        // Thing 0 tips over thing 1 and pushes nothing.
+        TinTower u = Check.of("thing b 0 1 9 1 9;thing a 0 0 2 1 1;thing c 12 0 2 1 5;child load*(above=0);");
+        Check.due("load of a", Check.of("thing b 0 1 9 1 9;thing a 0 0 2 1 1;child load;").wish(1), 1);
+        u.take(0);
+        Check.due("child()", u.child(), 2);
+        TinTower s = Check.of("thing b 0 1 9 1 3;thing a 0 0 2 1 1;thing c 12 0 2 1 2;child load*(foot=0);");
+        Check.due("child(): a bears 1", s.child(), 2);
         TinTower v = Check.of("thing b 0 1 2 1 5;thing a 0 0 2 1 1;child load;");
         Check.due("wish() of the lower one, told second", v.wish(1), 6);
         Check.due("child(): the lower one, told second", v.child(), 1);
@@ -165,6 +172,11 @@ final class TermsFour {
         value("9999*9999*9999", 999700029999L);
         value("0-9999*9999*9999", -999700029999L);
         value("5000*1000*1000=5000*1000*1000", 1);
+        value("0*7", 0);
+        value("7*0", 0);
+        value("1*7", 7);
+        value("(0-1)*7", -7);
+        value("(0-5)*(0-3)", 15);
         value("4295*1000*1000*1000-4294*1000*1000*1000=1000*1000*1000", ERROR);
         value("429*1000*1000*1000/(1000*1000*1000)", 429);
     }
@@ -198,6 +210,10 @@ final class TermsFour {
         value("2*(500*1000*1000*1000)", 1000000000000L);
         value("2*(500*1000*1000*1000+1)", ERROR);
         value("9999*9999*9999*9999", ERROR);
+        // As a long alone 4096 times 4096 times 256 squared would be 0.
+        value("4096*4096*256", 4294967296L);
+        value("4096*4096*256*(4096*4096*256)", ERROR);
+        value("(0-4096*4096*256)*(4096*4096*256)", ERROR);
         value(much + "*(" + much + ")", ERROR);
         value("(" + much + "+1)>0", ERROR);
         value("0*(" + much + "+1)", ERROR);
@@ -242,9 +258,9 @@ final class TermsFour {
         y.spree(0);
         y.spree(-1);
         y.spree(10);
-        y.undo();
         y.keep();
         Check.due("nothing was changed", y.count(5), 0);
+        Check.due("nothing was changed", y.undo(), -1);
         y.spree(9);
         y.spree(9);
         Check.due("nothing was there the second time", y.count(5), 1);

@@ -397,6 +397,11 @@ final class TermsOne {
         Check.fault("thing abcdefg", 1, 6);
         Check.fault("child weightt;", 1, 6);
         Check.fault("thing a 0 0 1 1 1 roundround;", 1, 18);
+        for (String word : new String[] {"shelf", "thing", "child", "or", "and", "not", "weight", "wide", "high", "left",
+            "foot", "above", "load", "smooth"}) {
+            Check.fault("thing a 0 0 1 1 1 " + word + ";", 1, 18);
+            Check.fault("thing a 0 0 1 1 1 " + word + " 1;", 1, 18);
+        }
         says("or can't stand there (the length, if more must come).");
         Check.fault("shelf thing", 1, 6);
         Check.fault("shelf", 1, 5);

@@ -49,6 +49,8 @@ final class TermsThree {
         may("thing a 0 0 1 1 1;thing b 1 0 1 1 1;thing c 2 0 1 1 1;", 7);
         may("thing a 0 0 1 1 1;thing b 1 1 1 1 1;thing c 2 1 1 1 1;", 0);
         may(BALANCE, 7);
+        may("shelf 4;thing a 2 0 6 1 1;thing b 2 1 1 1 9;", 0);
+        may("shelf 4;thing b 2 1 1 1 9;thing a 2 0 6 1 1;", 0);
         TinTower x = Check.of(BALANCE);
         x.take(0);
         Check.due("l and r keep the balance", x.may(), 0);
@@ -117,6 +119,12 @@ final class TermsThree {
         down("shelf 4;thing b 2 1 1 1 9;thing a 2 0 6 1 1;", 2, 0, 1);
         // g must be held: then nobody holds the board or its weight.
         down("shelf 4;thing a 2 0 6 1 1;thing b 2 1 1 1 9;thing g 20 9 1 1 1;", 2, 2, 0, 1);
+        // 0 itself must be held, for two stand on it.
+        down("thing b 0 1 2 1 1;thing a 0 0 2 1 1;thing c 0 2 1 1 1;thing d 1 2 1 1 1;", 2, 1, 2, 3, 0);
+        // c presses b's left, z its right, and b and e keep the board a. Behind y and z b would be held, for c tips it yet:
+        // then c can't be taken, though without it all stands by itself. So z goes ahead of y, with c held.
+        down("shelf 7;thing y 0 0 1 1 1;thing z 6 3 1 1 9 heart 2;thing c 2 3 3 1 4 heart 3;thing s 5 1 1 1 1;"
+                + "thing e 2 1 1 2 1;thing b 4 2 3 1 3 heart 3;thing a 2 0 12 1 2 heart 20;", 2, 1, 0, 2, 4, 5, 3, 6);
         // Three that hang by turns: one can hold but one of two.
         downNever("thing a 0 0 1 1 1;thing b 3 1 1 1 1;thing c 5 1 1 1 1;thing d 7 1 1 1 1;", 2);
         down("thing a 0 0 1 1 1;thing b 3 1 1 1 1;thing c 5 1 1 1 1;", 2, 1, 0, 2);
@@ -209,6 +217,15 @@ final class TermsThree {
         x.undo();
         x.take(1);
         Check.due("it falls", x.there(), 12);
+        // Its edges begin at 0, and there it tips over from the right.
+        push("thing a 0 1 8 9 20 rough 10 heart 6;thing p 0 0 2 1 1;thing q 6 0 2 1 1;", 11, 6);
+        // Where it has been is no edge any more: from 4 to 8 now, its heart at 6.
+        TinTower y = Check.of("thing a 3 1 4 4 20 rough 10;thing p 2 0 2 1 1;thing q 6 0 2 1 1;");
+        Check.due("two posts, the far end at 14", y.push(0, 0, 0), 10);
+        y.move(0, -1);
+        Check.due("one post, the far end at 8", y.there(), 7);
+        Check.due("from the left", y.push(0, 0, 0), 0);
+        Check.due("from the right", y.push(0, 1, 0), 10);
         // On a round one it has a point alone, and no push at all.
         push("thing a 0 2 4 2 10;thing r 1 0 2 2 1 round;", 0, 0);
     }
@@ -420,6 +437,9 @@ final class TermsThree {
         over("thing a 0 0 12 1 1;thing b 0 1 1 1 99;", 0, 1, -1, 11);
         over("thing a 0 0 1 1 99;thing b 0 1 9 1 1;thing c 0 2 1 1 1;", 0, 1, 2, 6);
         over("thing a 0 0 1 1 99;thing b 0 1 9 1 1;thing c 0 2 1 1 1;", 0, 1, -1, 4);
+        over("thing a 0 0 1 1 1;thing b 0 1 12 1 99;thing c 0 2 1 1 99;", 0, 1, 2, 8);
+        over("thing a 0 0 12 1 99;thing b 0 1 1 1 1;thing c 0 2 12 1 1;", 0, 1, 2, 11);
+        over("thing a 0 0 2 1 1 round;thing b 0 1 12 1 3 heart 0;thing c 0 2 1 1 1 heart 2;", 0, 1, 2, 11);
     }
 
     private static void overTheEnd() {

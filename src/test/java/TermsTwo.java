@@ -21,6 +21,7 @@ final class TermsTwo {
         tips();
         hangs();
         wedged();
+        wedgedFirst();
         wedgedOfSeveral();
         held();
         stands();
@@ -309,6 +310,28 @@ final class TermsTwo {
         }
     }
 
+    /** Thing 0, whose edges are the first ones, goes on at the nearest end like any other. */
+    private static void wedgedFirst() {
+        says("all goes on at the nearest end.");
+        // b, wedged, on p alone: at its right end, 8, it holds the plank q, which tips over the shelf's end without it.
+        TinTower x = Check.of("shelf 5;thing b 3 2 9 1 9;thing p 3 1 1 1 1;thing q 3 0 6 1 3;");
+        Check.due("b tips", x.stands(7, 0, 0), 0);
+        Check.due("b wedged at 8", x.stands(7, 0, 1), 1);
+        TinTower y = Check.of("shelf 5;thing b 3 2 9 1 9;thing p 4 1 1 1 1;thing q 3 0 6 1 3;");
+        // 9 at 10 and 1 at 9 and 3 at 12 are 135 by 13, beyond 10.
+        Check.due("b wedged at 10", y.stands(7, 0, 1), 0);
+        // b, wedged, ahead of both its posts: at the left end of the left one, 4, and not at 12.
+        TinTower z = Check.of("shelf 5;thing b 0 2 8 1 9 heart 0;thing p 2 1 1 1 1;thing r 6 1 1 1 1;thing q 2 0 6 1 3;");
+        Check.due("b tips", z.stands(15, 0, 0), 0);
+        Check.due("b wedged at 4", z.stands(15, 0, 1), 1);
+        TinTower w = Check.of("shelf 5;thing b 0 2 8 1 9 heart 0;thing p 6 1 1 1 1;thing r 2 1 1 1 1;thing q 2 0 6 1 3;");
+        Check.due("b wedged at 4, the posts told otherwise", w.stands(15, 0, 1), 1);
+        // b beyond both of them, at the right end of the right one, 14: the plank tips.
+        TinTower v = Check.of("shelf 5;thing b 2 2 9 1 9 heart 18;thing p 2 1 1 1 1;thing r 6 1 1 1 1;thing q 2 0 6 1 3;");
+        Check.due("b wedged at 14", v.stands(15, 0, 1), 0);
+        Check.due("both wedged", v.stands(15, 0, 9), 1);
+    }
+
     /** The nearest end of the last edge, where it is beyond that; of the first one, where it is ahead of it. */
     private static void wedgedOfSeveral() {
         says("all goes on at the nearest end.");
@@ -378,6 +401,12 @@ final class TermsTwo {
             Check.due("falls(255, " + (round + 2) + ")", x.falls(255, round + 2), 1 << 7 - round);
         }
         Check.due("falls(255, 10)", x.falls(255, 10), 0);
+        // Thing 0 on two others, of which the one falls first: then it tips.
+        TinTower y = Check.of("thing b 0 2 4 1 1 heart 2;thing p 0 1 1 1 1;thing q 3 0 1 2 1;");
+        Check.due("all rounds", y.falls(7, 0), 3);
+        Check.due("falls(7, 1)", y.falls(7, 1), 2);
+        Check.due("p first", y.falls(7, 2), 2);
+        Check.due("then b", y.falls(7, 3), 1);
         // What stood by the weight of one that falls, which pushes nothing, falls with it.
         TinTower z = Check.of("shelf 4;thing a 2 0 6 1 1;thing b 0 1 3 1 9;thing d 0 0 1 1 1;");
         Check.due("b stands on a and d", z.falls(7, 0), 0);
