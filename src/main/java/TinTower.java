@@ -32,8 +32,8 @@ public final class TinTower {
         taped = 0;
         spare = new Told();
         reader = new Reader();
-        now = new Pile();
-        trial = new Pile();
+        now = new Pile(new Told());
+        trial = new Pile(now.told);
         orders = new Orders();
         shapes = new Shapes();
         history = new History();
@@ -1253,7 +1253,7 @@ public final class TinTower {
         }
 
         private void add(int t, int newOn, int newFrom, int newTo, boolean pointIsEnough) {
-            if (newFrom > newTo || newFrom == newTo && !pointIsEnough) {
+            if (newFrom > newTo || newFrom == newTo && !pointIsEnough || size[t] >= ROW) {
                 return;
             }
             int start = t * ROW;
@@ -1317,7 +1317,7 @@ public final class TinTower {
         static final int MOST_DROPS = 1000;
         static final int LOST = -1;
 
-        Told told = new Told();
+        Told told;
         final Scene scene = new Scene();
         final Edges edges = new Edges();
         final long[] load = new long[MOST_THINGS];
@@ -1327,6 +1327,10 @@ public final class TinTower {
         int rounds;
         private int heavier = NONE;
         private int more;
+
+        Pile(Told newTold) {
+            told = newTold;
+        }
 
         /** All THINGS are there as told. */
         void begin(Told newTold) {

@@ -73,6 +73,13 @@ final class PromisesOfOrders {
                 Check.due("down(" + hands + ", " + what + ")", w.down(hands, what), orders[hands - 1][what]);
             }
         }
+        // Without the first one nothing led on, of the board on its post; of five apart it does.
+        Check.due("text", Check.read(w, "thing m 5 2 2 1 20;thing l 0 2 1 1 1;thing r 11 2 1 1 1;thing b 0 1 12 1 1;thing p 5 0 2 1 1;"), 5);
+        Check.due("down(1, 1) of the board", w.down(1, 1), 1);
+        Check.due("text", Check.read(w, "thing a 0 0 1 1 1;thing b 1 0 1 1 1;thing c 2 0 1 1 1;thing d 3 0 1 1 1;thing e 4 0 1 1 1;"), 5);
+        for (int what = 1; what <= 5; what++) {
+            Check.due("down(1, " + what + ") of five apart", w.down(1, what), what - 1);
+        }
         Doc.says("P14", "NONE: no such ones,");
         x.undo();
         for (int hands : new int[] {0, 3, -1, MIN, MAX}) {
